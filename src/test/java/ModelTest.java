@@ -1,0 +1,198 @@
+/** All promises: the class and the model answer the same, over every short word and over long runs of calls. */
+public final class ModelTest {
+    private static final Check CHECK = new Check("ModelTest");
+    private static final int RUNS = 400;
+    private static final int CALLS = 512;
+
+    private static long seed;
+    private static BorderRuns object;
+    private static Model model;
+
+    public static void main(String[] args) {
+        everyWord(2, 9);
+        everyWord(3, 6);
+        everyText("az()29", 6);
+        for (int run = 0; run < RUNS && CHECK.isClean(); run++) {
+            runOfCalls(run);
+        }
+        CHECK.end();
+    }
+
+    private static void everyWord(int letters, int longest) {
+        int words = 1;
+        for (int length = 0; length <= longest; length++) {
+            for (int number = 0; number < words && CHECK.isClean(); number++) {
+                start();
+                int rest = number;
+                for (int place = 0; place < length; place++) {
+                    both("add", rest % letters, 0, 0);
+                    rest /= letters;
+                }
+                tellAll(length, letters);
+            }
+            words *= letters;
+        }
+    }
+
+    private static void tellAll(int length, int letters) {
+        for (int what = -1; what <= 12; what++) {
+            both("count", what, 0, 0);
+            both("bestLetter", what, 0, 0);
+            for (int one = -1; one <= length + 1; one++) {
+                both("at", one, what, 0);
+                both("square", one, what, 0);
+                both("run", one, what, 0);
+                for (int other = -1; other <= length + 1; other++) {
+                    both("factor", one, other, what);
+                }
+            }
+            for (int letter = 0; letter <= letters; letter++) {
+                both("ifLetter", letter, what, 0);
+            }
+        }
+        for (int one = -1; one <= length + 1; one++) {
+            both("suffix", one, 0, 0);
+            both("unlike", one, 0, 0);
+            for (int other = -1; other <= length + 1; other++) {
+                both("border", one, other, 0);
+                both("alike", one, other, 0);
+            }
+        }
+    }
+
+    private static void everyText(String characters, int longest) {
+        int texts = 1;
+        for (int length = 0; length <= longest; length++) {
+            for (int number = 0; number < texts && CHECK.isClean(); number++) {
+                start();
+                int rest = number;
+                for (int index = 0; index < length; index++) {
+                    both("type", characters.charAt(rest % characters.length()), 0, 0);
+                    rest /= characters.length();
+                }
+                both("load", 0, 0, 0);
+                both("count", 0, 0, 0);
+                both("count", 2, 0, 0);
+            }
+            texts *= characters.length();
+        }
+    }
+
+    private static void runOfCalls(int run) {
+        start();
+        seed = 7919L * run + 17;
+        int letters = 1 + run % 4;
+        for (int call = 0; call < CALLS && CHECK.isClean(); call++) {
+            if (draw(5) < 2) {
+                anyAct(letters);
+            } else {
+                anyQuestion(letters);
+            }
+        }
+    }
+
+    private static void anyAct(int letters) {
+        int length = object.count(0);
+        switch (draw(14)) {
+            case 0: both("drop", draw(12) == 0 ? draw(44) - 1 : 1 + draw(4), 0, 0); break;
+            case 1: both("change", draw(length + 3) - 1, anyLetter(letters), 0); break;
+            case 2: both("reverse", 0, 0, 0); break;
+            case 3: both("turn", draw(3) == 0 ? draw(43) - 1 : draw(length + 2), 0, 0); break;
+            case 4: case 5: both("fold", draw(length + 2) - 1, draw(length + 2), 0); break;
+            case 6: typeText(letters); both("load", 0, 0, 0); break;
+            case 7: both("load", 0, 0, 0); break;
+            case 8: both("clearText", 0, 0, 0); break;
+            case 9: both("undo", 0, 0, 0); break;
+            case 10: both("keep", 0, 0, 0); break;
+            case 11: both("restore", 0, 0, 0); break;
+            default: both("add", anyLetter(letters), 0, 0); break;
+        }
+    }
+
+    private static void typeText(int letters) {
+        if (draw(3) > 0) {
+            both("clearText", 0, 0, 0);
+        }
+        boolean inGroup = false;
+        int pieces = draw(10);
+        for (int i = 0; i < pieces; i++) {
+            if (draw(30) == 0) {
+                both("type", draw(400), 0, 0);
+            } else if (draw(4) == 0) {
+                both("type", inGroup ? ')' : '(', 0, 0);
+                inGroup = !inGroup;
+            } else {
+                both("type", 'a' + draw(letters), 0, 0);
+            }
+            if (!inGroup && draw(3) == 0) {
+                both("type", '2' + draw(8), 0, 0);
+            }
+        }
+        if (inGroup && draw(8) > 0) {
+            both("type", ')', 0, 0);
+        }
+    }
+
+    private static void anyQuestion(int letters) {
+        int length = object.count(0);
+        int place = draw(length + 2) - draw(2);
+        int other = draw(length + 2) - draw(2);
+        switch (draw(11)) {
+            case 0: both("at", place, draw(6) - 1, 0); break;
+            case 1: both("border", place, draw(8) - 1, 0); break;
+            case 2: case 3: both("factor", Math.min(place, other), Math.max(place, other), draw(12) - 1); break;
+            case 4: both("alike", place, other, 0); break;
+            case 5: both("suffix", place, 0, 0); break;
+            case 6: both("square", draw(30) - 1, draw(4) - 1, 0); break;
+            case 7: both("run", draw(8) - 1, draw(7) - 1, 0); break;
+            case 8: both("unlike", place, 0, 0); break;
+            case 9: both(draw(4) == 0 ? "bestLetter" : "ifLetter", draw(6) - 1, draw(6) - 1, 0); break;
+            default: both("count", draw(14) - 1, 0, 0); break;
+        }
+    }
+
+    private static int anyLetter(int letters) {
+        return draw(20) == 0 ? draw(30) - 2 : draw(letters);
+    }
+
+    private static void start() {
+        object = new BorderRuns();
+        model = new Model();
+    }
+
+    private static int draw(int below) {
+        seed = seed * 6364136223846793005L + 1442695040888963407L;
+        return (int) ((seed >>> 33) % below);
+    }
+
+    private static void both(String call, int a, int b, int c) {
+        String told = call + "(" + a + ", " + b + ", " + c + ") of " + Check.wordOf(object);
+        switch (call) {
+            case "add": CHECK.due(told, object.add(a), model.add(a)); break;
+            case "drop": CHECK.due(told, object.drop(a), model.drop(a)); break;
+            case "change": CHECK.due(told, object.change(a, b), model.change(a, b)); break;
+            case "reverse": CHECK.due(told, object.reverse(), model.reverse()); break;
+            case "turn": CHECK.due(told, object.turn(a), model.turn(a)); break;
+            case "fold": CHECK.due(told, object.fold(a, b), model.fold(a, b)); break;
+            case "load": CHECK.due(told, object.load(), model.load()); break;
+            case "type": CHECK.due(told, object.type((char) a), model.type((char) a)); break;
+            case "clearText": CHECK.due(told, object.clearText(), model.clearText()); break;
+            case "undo": CHECK.due(told, object.undo(), model.undo()); break;
+            case "keep": CHECK.due(told, object.keep(), model.keep()); break;
+            case "restore": CHECK.due(told, object.restore(), model.restore()); break;
+            case "at": CHECK.due(told, object.at(a, b), model.at(a, b)); break;
+            case "border": CHECK.due(told, object.border(a, b), model.border(a, b)); break;
+            case "factor": CHECK.due(told, object.factor(a, b, c), model.factor(a, b, c)); break;
+            case "alike": CHECK.due(told, object.alike(a, b), model.alike(a, b)); break;
+            case "suffix": CHECK.due(told, object.suffix(a), model.suffix(a)); break;
+            case "square": CHECK.due(told, object.square(a, b), model.square(a, b)); break;
+            case "run": CHECK.due(told, object.run(a, b), model.run(a, b)); break;
+            case "unlike": CHECK.due(told, object.unlike(a), model.unlike(a)); break;
+            case "ifLetter": CHECK.due(told, object.ifLetter(a, b), model.ifLetter(a, b)); break;
+            case "bestLetter": CHECK.due(told, object.bestLetter(a), model.bestLetter(a)); break;
+            case "count": CHECK.due(told, object.count(a), model.count(a)); break;
+            default: CHECK.due(told + ", which is no call", 0, 1); break;
+        }
+        CHECK.dueWord(told, object, model.word());
+    }
+}
