@@ -68,6 +68,7 @@ public final class CountTest {
         bestLetter("abaab", 0, 2, 0, 0);
         bestLetter("cbcbc", 1, 0, 1, 2);
         bestLetter("zyzyz", 24, 0, 24, 25);
+        bestLetter("zabcdefghijklmnopqrstuvwxyz", 0, 1, 25, 25);
     }
 
     private static void promise23WrongInputs() {

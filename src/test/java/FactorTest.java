@@ -27,6 +27,7 @@ public final class FactorTest {
         factor("aaaa", 2, 4, 0, 3, 2, 4);
         factor("aaaa", 1, 2, 0, 4, 1, 4);
         factor("ababa", 2, 5, 0, 2, 3, 5);
+        factor("aab", 0, 1, 0, 2, 1, 2);
         factor("a", 0, 1, 0, 1, 1, 1);
         factor("a".repeat(40), 39, 40, 0, 40, 1, 40);
     }
@@ -42,6 +43,7 @@ public final class FactorTest {
         factor("aaaa", 1, 3, 3, 2, 2, 1);
         factor("xabyab", 5, 6, 3, 2, 1, 0);
         factor("abxab", 1, 2, 3, 2, 1, 0);
+        factor("bab", 2, 3, 3, 1, 1, 0);
         factor("a", 0, 1, 3, 1, 1, 0);
     }
 

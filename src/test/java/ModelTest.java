@@ -12,6 +12,7 @@ public final class ModelTest {
         everyWord(2, 9);
         everyWord(3, 6);
         everyText("az()29", 6);
+        longWords();
         for (int run = 0; run < RUNS && CHECK.isClean(); run++) {
             runOfCalls(run);
         }
@@ -31,6 +32,29 @@ public final class ModelTest {
                 tellAll(length, letters);
             }
             words *= letters;
+        }
+    }
+
+    /** Words that are rich in runs, in squares, or in neither, of as many letters as there is room for. */
+    private static void longWords() {
+        String fibonacci = "abaababaabaababaababaabaababaabaababaaba";
+        String thueMorse = "abbabaabbaababbabaababbaabbabaabbaababba";
+        String squareFree = "abcacbabcbacabcacbacabcbabcacbabcbacabca";
+        String ruler = "abacabadabacabaeabacabadabacabafabacabad";
+        String[] words = {fibonacci, thueMorse, squareFree, ruler, "aabaabbaabaabbaabaabbabbabbababababaaaab",
+            "a".repeat(40), "ab".repeat(20), "aab".repeat(13) + "a", "a".repeat(20) + "b".repeat(20)};
+        for (String word : words) {
+            for (int length = 39; length <= word.length() && CHECK.isClean(); length++) {
+                start();
+                for (int place = 0; place < length; place++) {
+                    both("add", word.charAt(place) - 'a', 0, 0);
+                }
+                tellAll(length, 6);
+            }
+            for (int rank = 0; rank <= 400 && CHECK.isClean(); rank++) {
+                both("square", rank, 0, 0);
+                both("square", rank, 1, 0);
+            }
         }
     }
 

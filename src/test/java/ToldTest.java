@@ -44,6 +44,10 @@ public final class ToldTest {
             CHECK.due("at(" + place + ", 2)", x.at(place, 2), runs[place]);
             CHECK.due("at(" + place + ", 3)", x.at(place, 3), squares[place]);
         }
+        BorderRuns one = Check.of("xabab");
+        CHECK.due("at(0, 2) of xabab", one.at(0, 2), 0);
+        CHECK.due("at(1, 2) of xabab", one.at(1, 2), 1);
+        CHECK.due("at(4, 2) of xabab", one.at(4, 2), 1);
         BorderRuns same = Check.of("a".repeat(40));
         CHECK.due("at(39, 2) of 40", same.at(39, 2), 1);
         CHECK.due("at(39, 3) of 40", same.at(39, 3), 20);

@@ -160,6 +160,11 @@ public final class WordTest {
         CHECK.due("fold(0, 41) of 40", x.fold(0, 41), BorderRuns.UNKNOWN);
         CHECK.due("undo()", x.undo(), 3);
         CHECK.due("count(0)", x.count(0), 20);
+        BorderRuns behindUndo = Check.of("abc");
+        behindUndo.undo();
+        behindUndo.ifLetter(25, 0);
+        CHECK.due("fold(0, 1) behind undo()", behindUndo.fold(0, 1), 3);
+        CHECK.dueWord("fold(0, 1) behind undo()", behindUndo, "aba");
         BorderRuns y = Check.of(FORTY);
         y.drop(3);
         CHECK.due("fold(0, 4) of 37", y.fold(0, 4), BorderRuns.FULL);
