@@ -341,7 +341,7 @@ public final class BorderRuns {
         draft.append(letter);
     }
 
-    /** Every act but undo() ends here, so that none forgets to record the state before it. */
+    /** Every act ends here, so that none forgets to record the state before it. */
     private void become(Word next) {
         history.record(word);
         word.copyFrom(next);
@@ -710,7 +710,7 @@ public final class BorderRuns {
         }
     }
 
-    /** Runs, told by the place from which they go, and their period, which leave one end alone. */
+    /** Runs, told by the place from which they go, and their period: two runs never share both. */
     private static final class Runs {
         static int total(Word word) {
             int many = 0;
