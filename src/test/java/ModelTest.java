@@ -1,10 +1,14 @@
 /** All promises: the class and the model answer the same, over every short word and over long runs of calls. */
 public final class ModelTest {
     private static final Check CHECK = new Check("ModelTest");
-    private static final int RUNS = 400;
-    private static final int CALLS = 512;
+    private static final int RUNS = 800;
+    /** What an object answers behind its 512th call is free: it is asked no further. */
+    private static final int MOST_CALLS = 512;
+    private static final int CALLS_OF_A_LOOK = 41;
+    private static final int CALLS_OF_A_TEXT = 21;
 
     private static long seed;
+    private static int calls;
     private static BorderRuns object;
     private static Model model;
 
@@ -29,7 +33,9 @@ public final class ModelTest {
                     both("add", rest % letters, 0, 0);
                     rest /= letters;
                 }
+                look();
                 tellAll(length, letters);
+                look();
             }
             words *= letters;
         }
@@ -49,39 +55,51 @@ public final class ModelTest {
                 for (int place = 0; place < length; place++) {
                     both("add", word.charAt(place) - 'a', 0, 0);
                 }
+                look();
                 tellAll(length, 6);
+                look();
             }
             for (int rank = 0; rank <= 400 && CHECK.isClean(); rank++) {
-                both("square", rank, 0, 0);
-                both("square", rank, 1, 0);
+                ask("square", rank, 0, 0);
+                ask("square", rank, 1, 0);
             }
         }
     }
 
     private static void tellAll(int length, int letters) {
         for (int what = -1; what <= 12; what++) {
-            both("count", what, 0, 0);
-            both("bestLetter", what, 0, 0);
+            ask("count", what, 0, 0);
+            ask("bestLetter", what, 0, 0);
             for (int one = -1; one <= length + 1; one++) {
-                both("at", one, what, 0);
-                both("square", one, what, 0);
-                both("run", one, what, 0);
+                ask("at", one, what, 0);
+                ask("square", one, what, 0);
+                ask("run", one, what, 0);
                 for (int other = -1; other <= length + 1; other++) {
-                    both("factor", one, other, what);
+                    ask("factor", one, other, what);
                 }
             }
             for (int letter = 0; letter <= letters; letter++) {
-                both("ifLetter", letter, what, 0);
+                ask("ifLetter", letter, what, 0);
             }
         }
         for (int one = -1; one <= length + 1; one++) {
-            both("suffix", one, 0, 0);
-            both("unlike", one, 0, 0);
+            ask("suffix", one, 0, 0);
+            ask("unlike", one, 0, 0);
             for (int other = -1; other <= length + 1; other++) {
-                both("border", one, other, 0);
-                both("alike", one, other, 0);
+                ask("border", one, other, 0);
+                ask("alike", one, other, 0);
             }
         }
+    }
+
+    /** A question to a word that was made by add() alone: it is made once more when its calls are used up. */
+    private static void ask(String call, int a, int b, int c) {
+        if (calls + 1 + CALLS_OF_A_LOOK > MOST_CALLS) {
+            look();
+            object = Check.of(model.word());
+            calls = model.word().length();
+        }
+        both(call, a, b, c);
     }
 
     private static void everyText(String characters, int longest) {
@@ -97,6 +115,7 @@ public final class ModelTest {
                 both("load", 0, 0, 0);
                 both("count", 0, 0, 0);
                 both("count", 2, 0, 0);
+                look();
             }
             texts *= characters.length();
         }
@@ -106,17 +125,21 @@ public final class ModelTest {
         start();
         seed = 7919L * run + 17;
         int letters = 1 + run % 4;
-        for (int call = 0; call < CALLS && CHECK.isClean(); call++) {
+        while (calls + CALLS_OF_A_TEXT + 2 * CALLS_OF_A_LOOK <= MOST_CALLS && CHECK.isClean()) {
             if (draw(5) < 2) {
                 anyAct(letters);
             } else {
                 anyQuestion(letters);
             }
+            if (draw(12) == 0) {
+                look();
+            }
         }
+        look();
     }
 
     private static void anyAct(int letters) {
-        int length = object.count(0);
+        int length = model.word().length();
         switch (draw(14)) {
             case 0: both("drop", draw(12) == 0 ? draw(44) - 1 : 1 + draw(4), 0, 0); break;
             case 1: both("change", draw(length + 3) - 1, anyLetter(letters), 0); break;
@@ -158,7 +181,7 @@ public final class ModelTest {
     }
 
     private static void anyQuestion(int letters) {
-        int length = object.count(0);
+        int length = model.word().length();
         int place = draw(length + 2) - draw(2);
         int other = draw(length + 2) - draw(2);
         switch (draw(11)) {
@@ -182,6 +205,12 @@ public final class ModelTest {
     private static void start() {
         object = new BorderRuns();
         model = new Model();
+        calls = 0;
+    }
+
+    private static void look() {
+        CHECK.dueWord("all calls", object, model.word());
+        calls += model.word().length() + 1;
     }
 
     private static int draw(int below) {
@@ -190,7 +219,8 @@ public final class ModelTest {
     }
 
     private static void both(String call, int a, int b, int c) {
-        String told = call + "(" + a + ", " + b + ", " + c + ") of " + Check.wordOf(object);
+        String told = call + "(" + a + ", " + b + ", " + c + ") of " + model.word();
+        calls++;
         switch (call) {
             case "add": CHECK.due(told, object.add(a), model.add(a)); break;
             case "drop": CHECK.due(told, object.drop(a), model.drop(a)); break;
@@ -217,6 +247,5 @@ public final class ModelTest {
             case "count": CHECK.due(told, object.count(a), model.count(a)); break;
             default: CHECK.due(told + ", which is no call", 0, 1); break;
         }
-        CHECK.dueWord(told, object, model.word());
     }
 }
