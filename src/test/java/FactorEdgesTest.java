@@ -11,8 +11,10 @@ public final class FactorEdgesTest {
         checksInOrder();
         overlappingPlaces();
         firstAndLastEnd();
+        neighbouringEnds();
         classOfOneFactor();
         classOfManyFactors();
+        classUpToTheEndOfTheWord();
         linkIsTheEmptyOne();
         linkIsNotTheEmptyOne();
         periodIsItsLengthAtMost();
@@ -38,7 +40,7 @@ public final class FactorEdgesTest {
     private static void noSuchFactor() {
         int[][] places = {{-1, 1}, {-1, 3}, {0, 0}, {1, 1}, {3, 3}, {2, 1}, {3, 2}, {0, 4}, {2, 4}, {3, 4}, {0, -1},
             {Integer.MIN_VALUE, Integer.MAX_VALUE}, {Integer.MAX_VALUE, Integer.MIN_VALUE}, {0, Integer.MAX_VALUE},
-            {Integer.MIN_VALUE, 1}};
+            {Integer.MIN_VALUE, 1}, {2, Integer.MIN_VALUE + 1}, {Integer.MAX_VALUE, Integer.MIN_VALUE + 2}};
         for (int what = 0; what <= 9; what++) {
             for (int[] place : places) {
                 CHECK.due("factor(" + place[0] + ", " + place[1] + ", " + what + ") of bcd",
@@ -115,6 +117,16 @@ public final class FactorEdgesTest {
         factor(SAME, 0, 1, 2, 40);
     }
 
+    /** Two places that are neighbours: the first one is not the last one. */
+    private static void neighbouringEnds() {
+        for (int from = 0; from <= 1; from++) {
+            factor("bbb", from, from + 2, 1, 2);
+            factor("bbb", from, from + 2, 2, 3);
+            factor("xbby", from + 1, from + 2, 1, 2);
+            factor("xbby", from + 1, from + 2, 2, 3);
+        }
+    }
+
     /** "of all lengths from its shortest one on": the same length if there is one alone. */
     private static void classOfOneFactor() {
         factor("bb", 0, 1, 3, 1);
@@ -134,6 +146,23 @@ public final class FactorEdgesTest {
         factor("bcdxbcd", 4, 7, 3, 3);
         factor("bcdxbcd", 3, 7, 3, 7);
         factor("bcdxbcd", 3, 7, 4, 4);
+        factor("bcdxbcd", 2, 7, 4, 4);
+        factor("bcdxbcd", 0, 7, 4, 4);
+        factor("bcdxbcd", 0, 7, 3, 7);
+    }
+
+    /** A factor that ends with the word, too, is of another class than one that does not. */
+    private static void classUpToTheEndOfTheWord() {
+        factor("cbxdb", 1, 2, 3, 1);
+        factor("cbxdb", 4, 5, 3, 1);
+        factor("cbxdb", 0, 2, 3, 2);
+        factor("cbxdb", 0, 2, 4, 2);
+        factor("cbxdb", 0, 2, 5, 1);
+        factor("cbxdb", 3, 5, 3, 5);
+        factor("cbxdb", 3, 5, 4, 2);
+        factor("cbxdb", 3, 5, 5, 1);
+        factor("bxdb", 0, 1, 3, 1);
+        factor("bxdb", 2, 4, 5, 1);
     }
 
     /** "if that would be without letters, its link is the empty one, with the length 0" */

@@ -27,6 +27,7 @@ public final class LetterEdgesTest {
         countUnlikeLetters();
         countWithoutABorder();
         countTwiceOrMore();
+        countClasses();
         countUnlikeSquares();
         countStates();
         countText();
@@ -227,6 +228,19 @@ public final class LetterEdgesTest {
         of("bbb").tells("count(8)", x -> x.count(8), 2);
     }
 
+    /** "classes of factors": of those that end at just the same places, and so not the unlike factors. */
+    private static void countClasses() {
+        of("bcd").tells("count(3)", x -> x.count(3), 3);
+        of("bb").tells("count(3)", x -> x.count(3), 2);
+        of("cbb").tells("count(3)", x -> x.count(3), 4);
+        of("cbdb").tells("count(3)", x -> x.count(3), 5);
+        of("cbdbx").tells("count(3)", x -> x.count(3), 6);
+        of("bcdxbcd").tells("count(3)", x -> x.count(3), 7);
+        of("abcxbcybc").tells("count(3)", x -> x.count(3), 11);
+        of(ALPHABET + ALPHABET.substring(0, 14)).tells("count(3)", x -> x.count(3), 40);
+        of("xyz" + "bc" + "w" + "bc").tells("count(3)", x -> x.count(3), 10);
+    }
+
     /** "unlike squares (as factors)": one that stands twice counts once. */
     private static void countUnlikeSquares() {
         of("bc").tells("count(9)", x -> x.count(9), 0);
@@ -234,6 +248,9 @@ public final class LetterEdgesTest {
         of("bbb").tells("count(9)", x -> x.count(9), 1);
         of("bbbb").tells("count(9)", x -> x.count(9), 2);
         of("bcbcb").tells("count(9)", x -> x.count(9), 2);
+        of("bcbb").tells("count(9)", x -> x.count(9), 1);
+        of("bbcdd").tells("count(9)", x -> x.count(9), 2);
+        of("bcbcddcd").tells("count(9)", x -> x.count(9), 2);
     }
 
     /** "10 for the states in the history": 0 to 4. */

@@ -216,6 +216,8 @@ public final class RepeatEdgesTest {
         runs("acbcbx", new int[] {1, 5, 2, 2, 1});
         runs("zyzya", new int[] {0, 4, 2, 1, 1});
         runs("cbbcbb", new int[] {0, 6, 3, 1, 1}, new int[] {1, 3, 1, 1, 1}, new int[] {4, 6, 1, 4, 1});
+        runs("bcbbcb", new int[] {0, 6, 3, 2, 1}, new int[] {2, 4, 1, 2, 1});
+        runs("bdbcbdbc", new int[] {0, 8, 4, 2, 1});
         of("tabcdefghijklmnopqrs".repeat(2)).tells("run(0, 3)", x -> x.run(0, 3), 1);
         of("bcdefghijklmnopqrsta".repeat(2)).tells("run(0, 3)", x -> x.run(0, 3), 19);
     }

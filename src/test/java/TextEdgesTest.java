@@ -22,6 +22,7 @@ public final class TextEdgesTest {
         groupsBehindForty();
         textOfSixty();
         loadTakesThePlaceOfTheWord();
+        loadReadsAnew();
         loadIsAnAct();
         typeAnyCharacter();
         typeWhenFull();
@@ -222,6 +223,28 @@ public final class TextEdgesTest {
         CHECK.due("load() of b34", x.load(), -102);
         CHECK.dueWord("load() with a fault", x, "bbb");
         CHECK.due("count(11), the text stays", x.count(11), 3);
+    }
+
+    /** Each load() reads the text from its beginning: nothing is left over from an earlier one. */
+    private static void loadReadsAnew() {
+        String[] earlier = {"a", "(ab)", "a2", "a(", "(a", "(ab", "(", "", "a1", FORTY + "b", "(" + FORTY + "b"};
+        for (String first : earlier) {
+            anew(first, "2", -100);
+            anew(first, "2a", -100);
+            anew(first, ")", -100);
+            anew(first, "a)", -101);
+            anew(first, "(a", -102);
+            anew(first, "b(c)3d2", 6);
+            anew(first, FORTY, 40);
+        }
+    }
+
+    private static void anew(String first, String second, int want) {
+        BorderRuns x = Check.typed(first);
+        x.load();
+        x.clearText();
+        Check.typeInto(x, second);
+        CHECK.due("load() of " + second + " behind load() of " + first, x.load(), want);
     }
 
     /** "This is an act": the state before it is recorded, even if the word stays the same. */

@@ -95,9 +95,15 @@ public final class WordEdgesTest {
         other.keep();
         other.type('e');
         Scene.made(CHECK).tells("count(0)", x -> x.count(0), 0);
+        BorderRuns third = Check.of("fgh");
+        third.keep();
+        Check.typeInto(third, "ij");
         CHECK.dueWord("what another object does", other, "e");
         CHECK.due("its undo()", other.undo(), 0);
         CHECK.due("its restore()", other.restore(), 1);
+        CHECK.dueWord("its restore()", other, "e");
+        CHECK.due("its load()", other.load(), 1);
+        CHECK.dueWord("its load()", other, "e");
     }
 
     // Promise 2
@@ -293,7 +299,7 @@ public final class WordEdgesTest {
     private static void foldNoFactor() {
         int[][] places = {{-1, 1}, {-1, 3}, {0, 0}, {1, 1}, {3, 3}, {2, 1}, {3, 2}, {0, 4}, {2, 4}, {3, 4}, {0, -1},
             {Integer.MIN_VALUE, Integer.MAX_VALUE}, {Integer.MAX_VALUE, Integer.MIN_VALUE}, {0, Integer.MAX_VALUE},
-            {Integer.MIN_VALUE, 1}};
+            {Integer.MIN_VALUE, 1}, {2, Integer.MIN_VALUE + 1}, {Integer.MAX_VALUE, Integer.MIN_VALUE + 2}};
         for (int[] place : places) {
             String call = "fold(" + place[0] + ", " + place[1] + ")";
             of("bcd").refuses(call, x -> x.fold(place[0], place[1]), BorderRuns.UNKNOWN);
